@@ -566,7 +566,6 @@ public final class GloveCutters {
         int trankSkin = firstSkinWithTranks(colour);
         pairColour[sewn] = colour;
         pairTrankSkin[sewn] = trankSkin;
-        pairThin[sewn] = 0;
         int skinBits = 0;
         for (int kind = 0; kind < KINDS; kind++) {
             int needed = KIND_IN_PAIR[kind];

@@ -78,6 +78,10 @@ public final class WouldBeTest {
         Check.same("best: thin is the same for quirks", 1, x.best(3, true));
         x.mark(2, 11, 7, 1, 1, 2);
         Check.same("best: the one with more", 1, x.best(3, false));
+        x.mark(1, 0, 0, 12, 8, 2);
+        x.mark(2, 0, 0, 12, 8, 2);
+        x.mark(2, 4, 4, 1, 1, 1);
+        Check.same("best: one alone gives one", 2, x.best(3, false));
         // 3 high and 12 wide: turned tranks do not fit, upright ones do
         GloveCutters y = new GloveCutters();
         y.lay(0);
@@ -106,6 +110,10 @@ public final class WouldBeTest {
     private static void promise15Lacks() {
         GloveCutters x = new GloveCutters();
         lacks(x, "no skins", 0, 2, 2, 6, 4);
+        GloveCutters y = new GloveCutters();
+        y.lay(0);
+        Workshop.cutMany(y, 0, 1, 1);
+        lacks(y, "the first piece a thumb", 0, 2, 1, 6, 4);
         x.lay(0);
         x.lay(0);
         x.lay(1);
@@ -125,6 +133,20 @@ public final class WouldBeTest {
         lacks(x, "after sew", 0, 1, 2, 6, 3);
         x.rip(0);
         lacks(x, "after rip, fourchettes lost", 0, 0, 0, 6, 0);
+        GloveCutters full = new GloveCutters();
+        for (int skin = 0; skin < 10; skin++) {
+            full.lay(skin == 9 ? 4 : 5);
+        }
+        Workshop.cutMany(full, 0, 3, 96);
+        Workshop.cutMany(full, 1, 3, 40);
+        Workshop.cutPair(full, 9);
+        lacks(full, "at 10 skins and 150 pieces", 4, 0, 0, 0, 0);
+        Check.same("pairs at 10 skins and 150 pieces", 1, full.pairs(4));
+        Check.same("count of free ones at 150 pieces", 150, full.count(2));
+        Check.same("best at 10 skins", 2, full.best(0, false));
+        Check.same("sew at 10 skins and 150 pieces", 0, full.sew(4));
+        Check.refusedUnchanged(full, "sew again there", IllegalStateException.class, () -> full.sew(4));
+        Check.same("rip at 150 pieces", 8, full.rip(0));
     }
 
     private static void promise15LacksRefuses() {
@@ -211,6 +233,18 @@ public final class WouldBeTest {
             d = d * 31;
         }
         Check.same("digest of a new object", d, new GloveCutters().digest());
+        GloveCutters x = twoSkins();
+        Check.same("digest of pieces", told(x), x.digest());
+        GloveCutters y = twoSkins();
+        y.sew(2);
+        y.rip(0);
+        Workshop.cutMany(y, 0, 2, 6);
+        y.sew(2);
+        Check.same("digest of pairs", told(y), y.digest());
+        Check.same("digest again", y.digest(), y.digest());
+    }
+
+    private static GloveCutters twoSkins() {
         GloveCutters x = new GloveCutters();
         x.lay(2);
         x.lay(2);
@@ -220,15 +254,7 @@ public final class WouldBeTest {
         Workshop.cutMany(x, 1, 1, 2);
         Workshop.cutMany(x, 1, 2, 6);
         Workshop.cutMany(x, 0, 3, 4);
-        Check.same("digest of pieces", told(x), x.digest());
-        x.sew(2);
-        x.rip(0);
-        Workshop.cutMany(x, 0, 2, 6);
-        x.sew(2);
-        long first = x.digest();
-        Check.same("digest again", first, x.digest());
-        x.lay(5);
-        Check.same("a skin changes it", 1, first != x.digest() ? 1 : 0);
+        return x;
     }
 
     /** The digest by what the other calls tell; for few calls, since every cell is one. */
