@@ -1,228 +1,490 @@
-/** Promises 6 to 8: cut, place, piece. */
+/** Promises 6 to 8: cut, place, piece; a test for each sentence. */
 public final class PiecesTest {
-    private static final Class<IndexOutOfBoundsException> INDEX = IndexOutOfBoundsException.class;
-    private static final Class<IllegalArgumentException> ARGUMENT = IllegalArgumentException.class;
-    private static final Class<IllegalStateException> STATE = IllegalStateException.class;
-    private static final int[] FAR = {Integer.MIN_VALUE, -1, Integer.MAX_VALUE};
-    private static final int[] WIDE = {4, 2, 1, 1};
-    private static final int[] HIGH = {3, 2, 3, 1};
+    private static final int[] MOST_THIN = {0, 1, 1, 3};
+
+    interface KindTest {
+        void run(int kind, boolean turned, int wide, int high);
+    }
 
     public static void main(String[] args) {
-        promise6CutsTheCellsOfItsKind();
-        promise6CutAtTheSkinsEdges();
-        promise6CutAndThinCells();
-        promise6CutAndHolesAndCuts();
-        promise6CutRefuses();
-        promise6CutOrder();
-        promise6At150();
-        promise7Place();
-        promise7PlaceRefuses();
-        promise8Piece();
-        promise8PieceRefuses();
-        Check.end();
+        Check.runAll(PiecesTest.class, args);
     }
 
-    private static int wide(int kind, boolean turned) {
-        return turned ? HIGH[kind] : WIDE[kind];
-    }
-
-    private static int high(int kind, boolean turned) {
-        return turned ? WIDE[kind] : HIGH[kind];
-    }
-
-    private static void promise6CutsTheCellsOfItsKind() {
+    private static void forEachKind(KindTest test) {
         for (int kind = 0; kind <= 3; kind++) {
-            for (boolean turned : new boolean[] {false, true}) {
-                GloveCutters x = new GloveCutters();
-                x.lay(0);
-                Check.same("cut kind " + kind, 0, x.cut(0, kind, turned, 3, 2));
-                for (int at = 0; at < 96; at++) {
-                    int cx = at % 12;
-                    int cy = at / 12;
-                    boolean inside = cx >= 3 && cx < 3 + wide(kind, turned) && cy >= 2 && cy < 2 + high(kind, turned);
-                    Check.same("kind " + kind + " " + turned + " cell " + cx + " " + cy, inside ? 3 : 0, x.cell(0, cx, cy));
-                }
-                Check.same("pieces of the skin", 1, x.skin(0, 5));
-                Check.same("a second piece's number", 1, x.cut(0, kind, turned, 8, 4));
+            for (boolean turned : Workshop.BOTH_WAYS) {
+                test.run(kind, turned, Workshop.wide(kind, turned), Workshop.high(kind, turned));
             }
         }
     }
 
-    private static void promise6CutAtTheSkinsEdges() {
+    // ---- promise 6: cut
+
+    static void promise6NoSuchSkin() {
+        GloveCutters x = Workshop.laid(2, 0);
+        Check.refusedOutside(x, "cut: skin", 0, 1, Check.INDEX, skin -> x.cut(skin, 3, false, 0, 0));
+        Check.same("cut of the first of two", 0, x.cut(0, 3, false, 0, 0));
+        Check.same("cut of the second of two", 1, x.cut(1, 3, false, 0, 0));
+        GloveCutters full = Workshop.laid(10, 0);
+        Check.refusedOutside(full, "of 10, cut: skin", 0, 9, Check.INDEX, skin -> full.cut(skin, 3, false, 0, 0));
+        Check.same("cut of the last of 10", 0, full.cut(9, 3, false, 0, 0));
+    }
+
+    static void promise6XNot0To11() {
         for (int kind = 0; kind <= 3; kind++) {
-            for (boolean turned : new boolean[] {false, true}) {
-                GloveCutters x = new GloveCutters();
-                x.lay(0);
-                int k = kind;
-                int lastX = 12 - wide(kind, turned);
-                int lastY = 8 - high(kind, turned);
-                if (lastX < 11) {
-                    Check.refusedUnchanged(x, "over the right edge", STATE, () -> x.cut(0, k, turned, lastX + 1, lastY));
-                }
-                if (lastY < 7) {
-                    Check.refusedUnchanged(x, "over the lower edge", STATE, () -> x.cut(0, k, turned, lastX, lastY + 1));
-                }
-                Check.same("in the lower right corner", 0, x.cut(0, kind, turned, lastX, lastY));
-                Check.same("in the upper left corner", 1, x.cut(0, kind, turned, 0, 0));
+            int one = kind;
+            GloveCutters x = Workshop.laid(1, 0);
+            for (int y = 0; y <= 7; y++) {
+                int row = y;
+                Check.refusedOutside(x, "cut: kind " + kind + ", row " + y + ", x", 0, 11, Check.INDEX,
+                        cx -> x.cut(0, one, false, cx, row));
             }
         }
     }
 
-    private static void promise6CutAndThinCells() {
-        int[] mostThin = {0, 1, 1, 1};
+    static void promise6YNot0To7() {
         for (int kind = 0; kind <= 3; kind++) {
-            int cells = WIDE[kind] * HIGH[kind];
-            for (int thin = 0; thin <= Math.min(2, cells); thin++) {
-                GloveCutters x = new GloveCutters();
-                x.lay(0);
-                int k = kind;
-                if (thin > 0) {
-                    // the thin ones are its last cells
-                    int y = HIGH[kind] - 1;
-                    boolean across = WIDE[kind] >= thin;
-                    x.mark(0, across ? WIDE[kind] - thin : 0, across ? y : y - thin + 1, across ? thin : 1, across ? 1 : thin, 1);
-                }
-                if (thin <= mostThin[kind]) {
-                    Check.same("kind " + kind + " with " + thin + " thin", 0, x.cut(0, kind, false, 0, 0));
-                    Check.same("its thin cells", thin, x.piece(0, 3));
-                } else {
-                    Check.refusedUnchanged(x, "kind " + kind + " with " + thin + " thin", STATE, () -> x.cut(0, k, false, 0, 0));
-                }
+            int one = kind;
+            GloveCutters x = Workshop.laid(1, 0);
+            for (int cx = 0; cx <= 11; cx++) {
+                int column = cx;
+                Check.refusedOutside(x, "cut: kind " + kind + ", column " + cx + ", y", 0, 7, Check.INDEX,
+                        y -> x.cut(0, one, true, column, y));
             }
         }
     }
 
-    private static void promise6CutAndHolesAndCuts() {
+    static void promise6KindNot0To3() {
+        GloveCutters x = Workshop.laid(1, 0);
+        for (boolean turned : Workshop.BOTH_WAYS) {
+            Check.refusedOutside(x, "cut: kind", 0, 3, Check.ARGUMENT, kind -> x.cut(0, kind, turned, 0, 0));
+        }
+        int[] columns = {0, 4, 6, 7};
         for (int kind = 0; kind <= 3; kind++) {
-            int k = kind;
-            for (int at = 0; at < WIDE[kind] * HIGH[kind]; at++) {
-                int cx = 4 + at % WIDE[kind];
-                int cy = 4 + at / WIDE[kind];
-                GloveCutters x = new GloveCutters();
-                x.lay(0);
-                x.mark(0, cx, cy, 1, 1, 2);
-                Check.refusedUnchanged(x, "kind " + kind + " with a hole", STATE, () -> x.cut(0, k, false, 4, 4));
-                x.mark(0, cx, cy, 1, 1, 0);
-                x.cut(0, 3, false, cx, cy);
-                Check.refusedUnchanged(x, "kind " + kind + " with a cut cell", STATE, () -> x.cut(0, k, false, 4, 4));
+            Check.same("cut of kind " + kind, kind, x.cut(0, kind, false, columns[kind], 0));
+        }
+    }
+
+    static void promise6CutsTheCellsOfItsKind() {
+        forEachKind((kind, turned, wide, high) -> {
+            GloveCutters x = Workshop.laid(2, 0);
+            x.cut(1, kind, turned, 3, 2);
+            for (int at = 0; at < 96; at++) {
+                int dx = at % 12 - 3;
+                int dy = at / 12 - 2;
+                boolean inside = dx >= 0 && dx < wide && dy >= 0 && dy < high;
+                Check.same(Workshop.named(kind, turned) + ", cell " + at, inside ? 3 : 0, x.cell(1, at % 12, at / 12));
             }
+            Check.same("the other skin", 0, x.skin(0, 4));
+        });
+    }
+
+    static void promise6OverTheRightEdge() {
+        forEachKind((kind, turned, wide, high) -> {
+            GloveCutters x = Workshop.laid(1, 0);
+            for (int cx = 13 - wide; cx <= 11; cx++) {
+                for (int y = 0; y <= 8 - high; y++) {
+                    int left = cx;
+                    int top = y;
+                    Check.refused(x, Workshop.named(kind, turned) + " over the right edge at " + cx + " " + y, Check.STATE,
+                            () -> x.cut(0, kind, turned, left, top));
+                }
+            }
+            Check.same(Workshop.named(kind, turned) + " at the right edge", 0, x.cut(0, kind, turned, 12 - wide, 1));
+        });
+    }
+
+    static void promise6OverTheLowerEdge() {
+        forEachKind((kind, turned, wide, high) -> {
+            GloveCutters x = Workshop.laid(1, 0);
+            for (int y = 9 - high; y <= 7; y++) {
+                for (int cx = 0; cx <= 12 - wide; cx++) {
+                    int left = cx;
+                    int top = y;
+                    Check.refused(x, Workshop.named(kind, turned) + " over the lower edge at " + cx + " " + y, Check.STATE,
+                            () -> x.cut(0, kind, turned, left, top));
+                }
+            }
+            Check.same(Workshop.named(kind, turned) + " at the lower edge", 0, x.cut(0, kind, turned, 1, 8 - high));
+        });
+    }
+
+    static void promise6InTheFourCorners() {
+        forEachKind((kind, turned, wide, high) -> {
+            GloveCutters x = Workshop.laid(1, 0);
+            Check.same("upper left", 0, x.cut(0, kind, turned, 0, 0));
+            Check.same("upper right", 1, x.cut(0, kind, turned, 12 - wide, 0));
+            Check.same("lower left", 2, x.cut(0, kind, turned, 0, 8 - high));
+            Check.same("lower right", 3, x.cut(0, kind, turned, 12 - wide, 8 - high));
+            Check.same("four pieces of cells", 4 * wide * high, x.skin(0, 4));
+        });
+    }
+
+    static void promise6NoneOfItsCellsIsAHole() {
+        forEachKind((kind, turned, wide, high) -> {
+            GloveCutters x = Workshop.laid(1, 0);
+            for (int at = 0; at < wide * high; at++) {
+                x.mark(0, 4 + at % wide, 4 + at / wide, 1, 1, 2);
+                Check.refused(x, Workshop.named(kind, turned) + ", cell " + at + " a hole", Check.STATE,
+                        () -> x.cut(0, kind, turned, 4, 4));
+                x.mark(0, 4 + at % wide, 4 + at / wide, 1, 1, 0);
+            }
+            Check.same(Workshop.named(kind, turned) + " without a hole", 0, x.cut(0, kind, turned, 4, 4));
+        });
+    }
+
+    static void promise6NoneOfItsCellsIsCut() {
+        forEachKind((kind, turned, wide, high) -> {
+            for (int at = 0; at < wide * high; at++) {
+                GloveCutters x = Workshop.laid(1, 0);
+                x.cut(0, 3, false, 4 + at % wide, 4 + at / wide);
+                Check.refused(x, Workshop.named(kind, turned) + ", cell " + at + " cut", Check.STATE,
+                        () -> x.cut(0, kind, turned, 4, 4));
+            }
+        });
+    }
+
+    static void promise6CellsRoundItMayBeHoles() {
+        forEachKind((kind, turned, wide, high) -> {
+            GloveCutters x = Workshop.laid(2, 0);
+            x.mark(0, 0, 0, 12, 8, 2);
+            Workshop.holesBut(x, 1, 5, 3, wide, high);
+            Check.same(Workshop.named(kind, turned) + " between holes", 0, x.cut(1, kind, turned, 5, 3));
+            Check.same("no cell is left", 0, x.skin(1, 1));
+        });
+    }
+
+    static void promise6CellsRoundItMayBeCut() {
+        forEachKind((kind, turned, wide, high) -> {
+            GloveCutters x = Workshop.laid(1, 0);
+            int quirks = 0;
+            for (int at = 0; at < 96; at++) {
+                int dx = at % 12 - 5;
+                int dy = at / 12 - 3;
+                if (dx < 0 || dx >= wide || dy < 0 || dy >= high) {
+                    x.cut(0, 3, false, at % 12, at / 12);
+                    quirks++;
+                }
+            }
+            Check.same(Workshop.named(kind, turned) + " between cut cells", quirks, x.cut(0, kind, turned, 5, 3));
+        });
+    }
+
+    /** A skin with these two cells of a part thin (or one, if they are the same). */
+    private static GloveCutters thinAt(int wide, int one, int other) {
+        GloveCutters x = Workshop.laid(1, 0);
+        x.mark(0, 4 + one % wide, 4 + one / wide, 1, 1, 1);
+        x.mark(0, 4 + other % wide, 4 + other / wide, 1, 1, 1);
+        return x;
+    }
+
+    private static void cutsOrRefuses(GloveCutters x, String call, int kind, boolean turned, boolean cuts) {
+        if (cuts) {
+            Check.same(call, 0, x.cut(0, kind, turned, 4, 4));
+        } else {
+            Check.refused(x, call, Check.STATE, () -> x.cut(0, kind, turned, 4, 4));
         }
     }
 
-    private static void promise6CutRefuses() {
-        GloveCutters x = new GloveCutters();
-        x.lay(0);
-        for (int far : FAR) {
-            Check.refusedUnchanged(x, "cut: skin " + far, INDEX, () -> x.cut(far, 0, false, 0, 0));
-            Check.refusedUnchanged(x, "cut: x " + far, INDEX, () -> x.cut(0, 0, false, far, 0));
-            Check.refusedUnchanged(x, "cut: y " + far, INDEX, () -> x.cut(0, 0, true, 0, far));
-            Check.refusedUnchanged(x, "cut: kind " + far, ARGUMENT, () -> x.cut(0, far, true, 0, 0));
-        }
-        Check.refusedUnchanged(x, "cut: skin 1 of 1", INDEX, () -> x.cut(1, 0, false, 0, 0));
-        Check.refusedUnchanged(x, "cut: x 12", INDEX, () -> x.cut(0, 3, false, 12, 0));
-        Check.refusedUnchanged(x, "cut: y 8", INDEX, () -> x.cut(0, 3, false, 0, 8));
-        Check.refusedUnchanged(x, "cut: kind 4", ARGUMENT, () -> x.cut(0, 4, false, 0, 0));
+    static void promise6OneThinCellInIt() {
+        forEachKind((kind, turned, wide, high) -> {
+            for (int at = 0; at < wide * high; at++) {
+                cutsOrRefuses(thinAt(wide, at, at), Workshop.named(kind, turned) + ", cell " + at + " thin",
+                        kind, turned, kind != 0);
+            }
+        });
     }
 
-    private static void promise6CutOrder() {
-        GloveCutters x = new GloveCutters();
-        x.lay(0);
-        x.cut(0, 3, false, 0, 0);
-        Check.refused("cut: no skin before wrong kind", INDEX, () -> x.cut(1, 4, false, 0, 0));
-        Check.refused("cut: no x before wrong kind", INDEX, () -> x.cut(0, -1, false, 12, 0));
-        Check.refused("cut: no y before wrong kind", INDEX, () -> x.cut(0, 4, false, 0, -1));
-        Check.refused("cut: wrong kind before a cut cell", ARGUMENT, () -> x.cut(0, 4, false, 0, 0));
-        Check.refused("cut: wrong kind at the edge", ARGUMENT, () -> x.cut(0, -1, true, 11, 7));
+    static void promise6TwoThinCellsInIt() {
+        forEachKind((kind, turned, wide, high) -> {
+            for (int at = 0; at < wide * high; at++) {
+                for (int other = 0; other < at; other++) {
+                    cutsOrRefuses(thinAt(wide, at, other), Workshop.named(kind, turned) + ", cells " + at + ", " + other + " thin",
+                            kind, turned, false);
+                }
+            }
+        });
     }
 
-    private static void promise6At150() {
-        GloveCutters x = new GloveCutters();
-        x.lay(0);
-        x.lay(0);
+    static void promise6AllCellsThin() {
+        forEachKind((kind, turned, wide, high) -> {
+            GloveCutters x = Workshop.laid(1, 0);
+            x.mark(0, 0, 0, 12, 8, 1);
+            cutsOrRefuses(x, Workshop.named(kind, turned) + " of thin cells", kind, turned, kind == 3);
+        });
+    }
+
+    static void promise6ThinCellsRoundIt() {
+        forEachKind((kind, turned, wide, high) -> {
+            GloveCutters x = Workshop.laid(1, 0);
+            x.mark(0, 0, 0, 12, 8, 1);
+            x.mark(0, 4, 4, wide, high, 0);
+            cutsOrRefuses(x, Workshop.named(kind, turned) + " between thin cells", kind, turned, true);
+        });
+    }
+
+    static void promise6PiecesAreNumberedFrom0() {
+        GloveCutters x = Workshop.laid(2, 0);
+        Check.same("the first", 0, x.cut(1, 0, false, 0, 0));
+        Check.refused(x, "none there", Check.STATE, () -> x.cut(1, 0, false, 0, 0));
+        Check.same("the second, of another skin", 1, x.cut(0, 1, true, 0, 0));
+        Check.same("the third, of the first skin", 2, x.cut(1, 3, false, 11, 7));
+    }
+
+    static void promise6The150thIsCut() {
+        GloveCutters x = Workshop.laid(2, 0);
         for (int piece = 0; piece < 150; piece++) {
             int at = piece % 96;
             Check.same("quirk " + piece, piece, x.cut(piece / 96, 3, false, at % 12, at / 12));
         }
-        Check.refusedUnchanged(x, "a 151st piece", STATE, () -> x.cut(1, 3, false, 11, 7));
-        Check.refusedUnchanged(x, "a 151st piece where none can be", STATE, () -> x.cut(0, 3, false, 0, 0));
-        Check.refusedUnchanged(x, "a 151st piece of no kind", ARGUMENT, () -> x.cut(1, 4, false, 11, 7));
-        Check.refusedUnchanged(x, "a 151st piece of no skin", INDEX, () -> x.cut(2, 4, false, 11, 7));
-        Check.same("place() goes on", 54, x.place(1, 3, false));
-        Check.same("gives() goes on", 42, x.gives(1, 3, false));
-        Check.same("best() goes on", 1, x.best(3, false));
-        Check.same("the last piece", 3, x.piece(149, 1));
-        Check.same("count(1)", 150, x.count(1));
     }
 
-    private static void promise7Place() {
-        GloveCutters x = new GloveCutters();
-        x.lay(0);
-        Check.same("on a whole skin", 0, x.place(0, 0, false));
-        x.mark(0, 3, 0, 1, 1, 1);
-        Check.same("a trank behind a thin cell", 4, x.place(0, 0, false));
-        Check.same("a turned trank before it", 0, x.place(0, 0, true));
-        Check.same("a thumb with one thin cell", 0, x.place(0, 1, false));
-        x.mark(0, 1, 0, 1, 1, 2);
-        Check.same("a thumb behind a hole, with the thin cell", 2, x.place(0, 1, false));
-        Check.same("a turned trank behind both", 4, x.place(0, 0, true));
-        Check.same("a fourchette in the first column", 0, x.place(0, 2, false));
-        Check.same("a turned fourchette", 2, x.place(0, 2, true));
-        x.cut(0, 3, false, 2, 0);
-        Check.same("a turned fourchette behind a cut", 3, x.place(0, 2, true));
-        x.mark(0, 3, 0, 9, 1, 2);
-        Check.same("a trank in the next row", 12, x.place(0, 0, false));
-        x.mark(0, 0, 1, 12, 6, 2);
-        x.mark(0, 0, 7, 12, 1, 2);
-        x.mark(0, 9, 7, 3, 1, 0);
-        Check.same("in the last row, at its end", 12 * 7 + 9, x.place(0, 2, true));
-        Check.same("a quirk before it", 0, x.place(0, 3, true));
-        Check.same("no trank", -1, x.place(0, 0, false));
-        Check.same("no thumb", -1, x.place(0, 1, true));
-        x.lay(0);
-        x.mark(1, 0, 0, 12, 8, 2);
-        x.mark(1, 10, 6, 2, 2, 0);
-        Check.same("the last place of a thumb", 12 * 6 + 10, x.place(1, 1, false));
-        Check.same("place changes nothing", 4, x.skin(1, 1));
+    static void promise6WhenThe150WereCut() {
+        forEachKind((kind, turned, wide, high) -> {
+            GloveCutters x = Workshop.with150Pieces();
+            Check.refused(x, "a 151st piece, " + Workshop.named(kind, turned), Check.STATE, () -> x.cut(1, kind, turned, 6, 4));
+            Check.refused(x, "a 151st piece where none can be", Check.STATE, () -> x.cut(0, kind, turned, 0, 0));
+        });
     }
 
-    private static void promise7PlaceRefuses() {
-        GloveCutters x = new GloveCutters();
+    static void promise6SewnAndLostPiecesCountAmongThe150() {
+        GloveCutters x = Workshop.with20Pairs();
         x.lay(0);
-        for (int far : FAR) {
-            Check.refusedUnchanged(x, "place: skin " + far, INDEX, () -> x.place(far, 0, false));
-            Check.refusedUnchanged(x, "place: kind " + far, ARGUMENT, () -> x.place(0, far, true));
+        for (int at = 0; at < 22; at++) {
+            Check.same("a quirk more", 128 + at, x.cut(6, 3, false, at % 12, at / 12));
         }
-        Check.refusedUnchanged(x, "place: skin 1 of 1", INDEX, () -> x.place(1, 0, false));
-        Check.refusedUnchanged(x, "place: kind 4", ARGUMENT, () -> x.place(0, 4, false));
-        Check.refusedUnchanged(x, "place: no skin before wrong kind", INDEX, () -> x.place(1, 4, false));
+        Check.refused(x, "a 151st piece", Check.STATE, () -> x.cut(6, 3, false, 11, 7));
+        x.rip(19);
+        Check.refused(x, "a 151st piece after rip", Check.STATE, () -> x.cut(6, 3, false, 11, 7));
     }
 
-    private static void promise8Piece() {
-        GloveCutters x = new GloveCutters();
-        x.lay(0);
-        x.lay(1);
-        x.mark(1, 0, 0, 1, 1, 1);
-        x.cut(0, 0, false, 0, 0);
-        x.cut(1, 1, false, 0, 0);
-        x.cut(1, 2, true, 4, 4);
-        long[][] due = {{0, 0, -1, 0}, {1, 1, -1, 1}, {1, 2, -1, 0}};
-        for (int piece = 0; piece < 3; piece++) {
-            for (int what = 0; what <= 3; what++) {
-                Check.same("piece(" + piece + ", " + what + ")", due[piece][what], x.piece(piece, what));
+    static void promise6NoSuchSkinOrCellIsNamedFirst() {
+        GloveCutters x = Workshop.with150Pieces();
+        int[][] places = {{2, 0, 0}, {-1, 0, 0}, {0, 12, 0}, {0, -1, 0}, {1, 0, 8}, {1, 0, -1}};
+        for (int[] p : places) {
+            for (int kind = -1; kind <= 4; kind++) {
+                int one = kind;
+                Check.refused(x, "cut: no such cell, at 150, kind " + kind, Check.INDEX, () -> x.cut(p[0], one, false, p[1], p[2]));
             }
         }
     }
 
-    private static void promise8PieceRefuses() {
-        GloveCutters x = new GloveCutters();
-        x.lay(0);
-        Check.refused("piece(0, 0) of none", INDEX, () -> x.piece(0, 0));
-        x.cut(0, 0, false, 0, 0);
-        for (int far : FAR) {
-            Check.refusedUnchanged(x, "piece: piece " + far, INDEX, () -> x.piece(far, 0));
-            Check.refusedUnchanged(x, "piece: what " + far, INDEX, () -> x.piece(0, far));
+    static void promise6AWrongKindIsNamedBeforeItsPlaceAndThe150() {
+        GloveCutters x = Workshop.laid(1, 0);
+        x.cut(0, 3, false, 0, 0);
+        Check.refusedOutside(x, "at a cut cell, kind", 0, 3, Check.ARGUMENT, kind -> x.cut(0, kind, false, 0, 0));
+        Check.refusedOutside(x, "at the edge, kind", 0, 3, Check.ARGUMENT, kind -> x.cut(0, kind, true, 11, 7));
+        GloveCutters full = Workshop.with150Pieces();
+        Check.refusedOutside(full, "at 150, kind", 0, 3, Check.ARGUMENT, kind -> full.cut(1, kind, false, 11, 7));
+    }
+
+    // ---- promise 7: place
+
+    static void promise7NoSuchSkin() {
+        GloveCutters x = Workshop.laid(2, 0);
+        Check.refusedOutside(x, "place: skin", 0, 1, Check.INDEX, skin -> x.place(skin, 0, false));
+        GloveCutters full = Workshop.laid(10, 0);
+        Check.refusedOutside(full, "of 10, place: skin", 0, 9, Check.INDEX, skin -> full.place(skin, 0, false));
+        Check.same("place on the last of 10", 0, full.place(9, 0, false));
+    }
+
+    static void promise7KindNot0To3() {
+        GloveCutters x = Workshop.laid(1, 0);
+        for (boolean turned : Workshop.BOTH_WAYS) {
+            Check.refusedOutside(x, "place: kind", 0, 3, Check.ARGUMENT, kind -> x.place(0, kind, turned));
+            for (int kind = 0; kind <= 3; kind++) {
+                Check.same(Workshop.named(kind, turned) + " on a whole skin", 0, x.place(0, kind, turned));
+            }
         }
-        Check.refusedUnchanged(x, "piece: piece 1 of 1", INDEX, () -> x.piece(1, 0));
-        Check.refusedUnchanged(x, "piece: what 4", INDEX, () -> x.piece(0, 4));
+    }
+
+    static void promise7NoSuchSkinIsNamedFirst() {
+        GloveCutters x = Workshop.laid(1, 0);
+        Check.refusedOutside(x, "place: no kind 4, and skin", 0, 0, Check.INDEX, skin -> x.place(skin, 4, false));
+        Check.refusedOutside(x, "place: no kind -1, and skin", 0, 0, Check.INDEX, skin -> x.place(skin, -1, true));
+    }
+
+    static void promise7NoneOnHolesOrCutCells() {
+        GloveCutters x = Workshop.laid(2, 0);
+        x.mark(0, 0, 0, 12, 8, 2);
+        Workshop.cutQuirks(x, 1, 96);
+        forEachKind((kind, turned, wide, high) -> {
+            Check.same(Workshop.named(kind, turned) + " on holes", -1, x.place(0, kind, turned));
+            Check.same(Workshop.named(kind, turned) + " on cut cells", -1, x.place(1, kind, turned));
+        });
+    }
+
+    static void promise7OnThinCellsAQuirkAlone() {
+        GloveCutters x = Workshop.laid(1, 0);
+        x.mark(0, 0, 0, 12, 8, 1);
+        forEachKind((kind, turned, wide, high) ->
+                Check.same(Workshop.named(kind, turned) + " on thin cells", kind == 3 ? 0 : -1, x.place(0, kind, turned)));
+    }
+
+    static void promise7AsManyThinCellsAsItsKindMayHave() {
+        forEachKind((kind, turned, wide, high) -> {
+            for (int thin = 1; thin <= Math.min(3, wide); thin++) {
+                GloveCutters x = Workshop.laid(1, 0);
+                Workshop.holesBut(x, 0, 12 - wide, 8 - high, wide, high);
+                x.mark(0, 12 - thin, 7, thin, 1, 1);
+                int due = thin <= MOST_THIN[kind] ? 12 * (8 - high) + 12 - wide : -1;
+                Check.same(Workshop.named(kind, turned) + " with " + thin + " thin cells", due, x.place(0, kind, turned));
+            }
+        });
+    }
+
+    static void promise7NoneWhereOneCellIsTooFew() {
+        forEachKind((kind, turned, wide, high) -> {
+            for (int at = 0; at < wide * high; at++) {
+                GloveCutters x = Workshop.laid(1, 0);
+                Workshop.holesBut(x, 0, 5, 3, wide, high);
+                x.mark(0, 5 + at % wide, 3 + at / wide, 1, 1, 2);
+                Check.same(Workshop.named(kind, turned) + " without cell " + at, -1, x.place(0, kind, turned));
+            }
+        });
+    }
+
+    static void promise7TheOnlyPlaceWhereverItIs() {
+        forEachKind((kind, turned, wide, high) -> {
+            for (int y = 0; y <= 8 - high; y++) {
+                GloveCutters x = Workshop.laid(1, 0);
+                for (int cx = 0; cx <= 12 - wide; cx++) {
+                    Workshop.holesBut(x, 0, cx, y, wide, high);
+                    Check.same(Workshop.named(kind, turned) + " at " + cx + " " + y, 12 * y + cx, x.place(0, kind, turned));
+                }
+            }
+        });
+    }
+
+    static void promise7TheLeastNumberOfSeveral() {
+        GloveCutters x = Workshop.laid(1, 0);
+        x.mark(0, 0, 0, 12, 8, 2);
+        x.mark(0, 11, 2, 1, 1, 0);
+        x.mark(0, 0, 3, 1, 1, 0);
+        Check.same("the end of a row before the next row", 12 * 2 + 11, x.place(0, 3, false));
+        x.mark(0, 9, 2, 1, 1, 0);
+        Check.same("the first of a row", 12 * 2 + 9, x.place(0, 3, false));
+        x.mark(0, 10, 1, 1, 1, 0);
+        Check.same("a row above it", 12 + 10, x.place(0, 3, false));
+        x.cut(0, 3, false, 10, 1);
+        Check.same("the next when the first is cut", 12 * 2 + 9, x.place(0, 3, false));
+    }
+
+    static void promise7NoPlaceGoesRoundTheEdge() {
+        forEachKind((kind, turned, wide, high) -> {
+            for (int before = 1; before < wide; before++) {
+                GloveCutters x = Workshop.laid(1, 0);
+                x.mark(0, 0, 0, 12, 8, 2);
+                x.mark(0, 12 - before, 0, before, 7, 0);
+                x.mark(0, 0, 1, wide - before, 7, 0);
+                Check.same(Workshop.named(kind, turned) + " round the edge, " + before, -1, x.place(0, kind, turned));
+            }
+        });
+    }
+
+    static void promise7OfThisSkinAlone() {
+        GloveCutters x = Workshop.laid(3, 0);
+        x.mark(0, 0, 0, 12, 8, 2);
+        x.mark(2, 0, 0, 12, 8, 2);
+        Check.same("before it", -1, x.place(0, 1, false));
+        Check.same("it", 0, x.place(1, 1, false));
+        Check.same("behind it", -1, x.place(2, 1, false));
+    }
+
+    static void promise7WhenThe150WereCut() {
+        GloveCutters x = Workshop.with150Pieces();
+        Check.same("place() tells where a 151st could be", 54, x.place(1, 3, false));
+        Check.same("place() on a skin all cut", -1, x.place(0, 3, false));
+    }
+
+    // ---- promise 8: piece
+
+    static void promise8NoSuchPiece() {
+        GloveCutters x = Workshop.laid(1, 0);
+        Check.refusedOutside(x, "piece of none", 0, -1, Check.INDEX, piece -> x.piece(piece, 0));
+        x.cut(0, 0, false, 0, 0);
+        x.cut(0, 3, false, 0, 4);
+        for (int what = 0; what <= 3; what++) {
+            int told = what;
+            Check.refusedOutside(x, "piece(.., " + what + ")", 0, 1, Check.INDEX, piece -> x.piece(piece, told));
+        }
+        Check.same("kind of the first", 0, x.piece(0, 1));
+        Check.same("kind of the last", 3, x.piece(1, 1));
+        GloveCutters full = Workshop.with150Pieces();
+        Check.refusedOutside(full, "of 150, piece", 0, 149, Check.INDEX, piece -> full.piece(piece, 0));
+        Check.same("the skin of the last of 150", 1, full.piece(149, 0));
+    }
+
+    static void promise8WhatNot0To3() {
+        GloveCutters x = Workshop.laid(1, 0);
+        x.mark(0, 0, 0, 1, 1, 1);
+        x.cut(0, 3, false, 0, 0);
+        Check.refusedOutside(x, "piece: what", 0, 3, Check.INDEX, what -> x.piece(0, what));
+        Check.same("what 0", 0, x.piece(0, 0));
+        Check.same("what 3", 1, x.piece(0, 3));
+    }
+
+    static void promise8ItsSkinAndKind() {
+        GloveCutters x = Workshop.laid(10, 0);
+        for (int skin = 0; skin <= 9; skin++) {
+            for (int kind = 0; kind <= 3; kind++) {
+                x.cut(skin, kind, false, 3 * kind + (kind == 0 ? 0 : 1), 0);
+            }
+        }
+        for (int piece = 0; piece < 40; piece++) {
+            Check.same("skin of piece " + piece, piece / 4, x.piece(piece, 0));
+            Check.same("kind of piece " + piece, piece % 4, x.piece(piece, 1));
+        }
+    }
+
+    static void promise8ItIsFreeSewnOrLost() {
+        GloveCutters x = Workshop.laid(1, 0);
+        Workshop.cutPair(x, 0);
+        for (int piece = 0; piece < 14; piece++) {
+            Check.same("free: piece " + piece, -1, x.piece(piece, 2));
+        }
+        x.sew(0);
+        for (int piece = 0; piece < 14; piece++) {
+            Check.same("sewn into pair 0: piece " + piece, 0, x.piece(piece, 2));
+        }
+        x.rip(0);
+        for (int piece = 0; piece < 14; piece++) {
+            Check.same("ripped: piece " + piece, piece >= 4 && piece < 10 ? -2 : -1, x.piece(piece, 2));
+        }
+    }
+
+    static void promise8ThePairAmong20() {
+        GloveCutters x = Workshop.with20Pairs();
+        for (int piece = 0; piece < 128; piece++) {
+            Check.same("of 20 pairs: piece " + piece, piece < 8 || piece >= 122 ? 19 : -2, x.piece(piece, 2));
+        }
+    }
+
+    static void promise8ThinCellsInIt() {
+        forEachKind((kind, turned, wide, high) -> {
+            GloveCutters x = Workshop.laid(1, 0);
+            x.cut(0, kind, turned, 0, 0);
+            Check.same(Workshop.named(kind, turned) + " without a thin cell", 0, x.piece(0, 3));
+            for (int at = 0; kind > 0 && at < wide * high; at++) {
+                GloveCutters y = thinAt(wide, at, at);
+                y.cut(0, kind, turned, 4, 4);
+                Check.same(Workshop.named(kind, turned) + " with thin cell " + at, 1, y.piece(0, 3));
+            }
+        });
+    }
+
+    static void promise8ThinCellsStayWhenItIsSewnOrLost() {
+        GloveCutters x = Workshop.laid(1, 0);
+        x.mark(0, 8, 0, 1, 1, 1);
+        x.mark(0, 8, 2, 1, 1, 1);
+        Workshop.cutPair(x, 0);
+        Check.same("the thumb", 1, x.piece(2, 3));
+        Check.same("the fourchette", 1, x.piece(4, 3));
+        x.sew(0);
+        Check.same("the thumb, sewn", 1, x.piece(2, 3));
+        Check.same("the fourchette, sewn", 1, x.piece(4, 3));
+        x.rip(0);
+        Check.same("the thumb, ripped", 1, x.piece(2, 3));
+        Check.same("the fourchette, lost", 1, x.piece(4, 3));
     }
 }

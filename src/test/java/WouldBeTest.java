@@ -1,105 +1,180 @@
-/** Promises 13 to 18: gives, best, lacks, pairs, share, digest. */
+import java.math.BigInteger;
+import java.util.ArrayList;
+import java.util.List;
+
+/** Promises 13 to 18: gives, best, lacks, pairs, share, digest; a test for each sentence. */
 public final class WouldBeTest {
-    private static final Class<IndexOutOfBoundsException> INDEX = IndexOutOfBoundsException.class;
-    private static final Class<IllegalArgumentException> ARGUMENT = IllegalArgumentException.class;
-    private static final int[] FAR = {Integer.MIN_VALUE, -1, Integer.MAX_VALUE};
+    interface Made {
+        GloveCutters anew();
+    }
 
     public static void main(String[] args) {
-        promise13Gives();
-        promise13GivesRefuses();
-        promise14Best();
-        promise14BestRefuses();
-        promise15Lacks();
-        promise15LacksRefuses();
-        promise16Pairs();
-        promise16PairsRefuses();
-        promise17Share();
-        promise18Digest();
-        Check.end();
+        Check.runAll(WouldBeTest.class, args);
     }
 
-    private static void promise13Gives() {
-        GloveCutters x = new GloveCutters();
-        x.lay(0);
-        int[] upright = {3 * 2, 6 * 4, 12 * 2, 12 * 8};
-        int[] turned = {4 * 2, 6 * 4, 4 * 8, 12 * 8};
+    // ---- promise 13: gives
+
+    static void promise13NoSuchSkin() {
+        GloveCutters x = Workshop.laid(2, 0);
+        Check.refusedOutside(x, "gives: skin", 0, 1, Check.INDEX, skin -> x.gives(skin, 0, false));
+        GloveCutters full = Workshop.laid(10, 0);
+        Check.refusedOutside(full, "of 10, gives: skin", 0, 9, Check.INDEX, skin -> full.gives(skin, 0, false));
+        Check.same("gives of the last of 10", 6, full.gives(9, 0, false));
+    }
+
+    static void promise13KindNot0To3() {
+        GloveCutters x = Workshop.laid(1, 0);
+        for (boolean turned : Workshop.BOTH_WAYS) {
+            Check.refusedOutside(x, "gives: kind", 0, 3, Check.ARGUMENT, kind -> x.gives(0, kind, turned));
+        }
+        Check.same("gives of kind 0", 6, x.gives(0, 0, false));
+        Check.same("gives of kind 3", 96, x.gives(0, 3, false));
+    }
+
+    static void promise13NoSuchSkinIsNamedFirst() {
+        GloveCutters x = Workshop.laid(1, 0);
+        Check.refusedOutside(x, "gives: no kind 4, and skin", 0, 0, Check.INDEX, skin -> x.gives(skin, 4, false));
+        Check.refusedOutside(x, "gives: no kind -1, and skin", 0, 0, Check.INDEX, skin -> x.gives(skin, -1, true));
+    }
+
+    private static void gives(GloveCutters x, String of, boolean turned, int... due) {
         for (int kind = 0; kind <= 3; kind++) {
-            Check.same("a whole skin gives kind " + kind, upright[kind], x.gives(0, kind, false));
-            Check.same("a whole skin gives turned kind " + kind, turned[kind], x.gives(0, kind, true));
+            Check.same(of + " gives " + Workshop.named(kind, turned), due[kind], x.gives(0, kind, turned));
         }
-        Check.same("gives changes nothing", 96, x.skin(0, 1));
-        x.mark(0, 1, 0, 1, 1, 2);
-        // a hole in the first row moves the tranks there, and two instead of three stand beside it
-        Check.same("around a hole", 5, x.gives(0, 0, false));
+    }
+
+    static void promise13OfAWholeSkin() {
+        GloveCutters x = Workshop.laid(1, 0);
+        gives(x, "a whole skin", false, 3 * 2, 6 * 4, 12 * 2, 12 * 8);
+        gives(x, "a whole skin", true, 4 * 2, 6 * 4, 4 * 8, 12 * 8);
+    }
+
+    static void promise13NoneOfHolesOrCutCells() {
+        GloveCutters x = Workshop.laid(1, 0);
+        x.mark(0, 0, 0, 12, 8, 2);
+        GloveCutters y = Workshop.laid(1, 0);
+        Workshop.cutQuirks(y, 0, 96);
+        for (boolean turned : Workshop.BOTH_WAYS) {
+            gives(x, "a skin of holes", turned, 0, 0, 0, 0);
+            gives(y, "a skin all cut", turned, 0, 0, 0, 0);
+        }
+    }
+
+    static void promise13OfThinCellsQuirksAlone() {
+        GloveCutters x = Workshop.laid(1, 0);
         x.mark(0, 0, 0, 12, 8, 1);
-        Check.same("thin: tranks", 0, x.gives(0, 0, false));
-        Check.same("thin: thumbs", 0, x.gives(0, 1, false));
-        Check.same("thin: fourchettes", 0, x.gives(0, 2, true));
-        Check.same("thin: quirks", 96, x.gives(0, 3, false));
-        x.mark(0, 0, 0, 12, 8, 2);
-        Check.same("holes: quirks", 0, x.gives(0, 3, false));
-        GloveCutters y = new GloveCutters();
-        y.lay(0);
-        y.cut(0, 0, false, 4, 0);
-        Check.same("around a cut", 5, y.gives(0, 0, false));
-        Check.same("the digest is the same after gives", y.digest(), afterGives(y));
-    }
-
-    private static long afterGives(GloveCutters x) {
-        x.gives(0, 1, true);
-        x.best(2, false);
-        return x.digest();
-    }
-
-    private static void promise13GivesRefuses() {
-        GloveCutters x = new GloveCutters();
-        Check.refused("gives(0, 0) without skins", INDEX, () -> x.gives(0, 0, false));
-        x.lay(0);
-        for (int far : FAR) {
-            Check.refusedUnchanged(x, "gives: skin " + far, INDEX, () -> x.gives(far, 0, false));
-            Check.refusedUnchanged(x, "gives: kind " + far, ARGUMENT, () -> x.gives(0, far, true));
+        for (boolean turned : Workshop.BOTH_WAYS) {
+            gives(x, "a thin skin", turned, 0, 0, 0, 96);
         }
-        Check.refusedUnchanged(x, "gives: skin 1 of 1", INDEX, () -> x.gives(1, 0, false));
-        Check.refusedUnchanged(x, "gives: kind 4", ARGUMENT, () -> x.gives(0, 4, false));
-        Check.refusedUnchanged(x, "gives: no skin before wrong kind", INDEX, () -> x.gives(1, 4, false));
     }
 
-    private static void promise14Best() {
-        GloveCutters x = new GloveCutters();
-        Check.same("best without skins", -1, x.best(3, false));
-        x.lay(0);
-        x.mark(0, 0, 0, 12, 8, 2);
-        Check.same("best where none gives any", -1, x.best(3, false));
-        x.lay(1);
-        x.lay(2);
-        Check.same("best of two alike", 1, x.best(0, false));
-        x.mark(1, 0, 0, 1, 1, 1);
-        Check.same("best: the other", 2, x.best(0, true));
-        Check.same("best: thin is the same for quirks", 1, x.best(3, true));
-        x.mark(2, 11, 7, 1, 1, 2);
-        Check.same("best: the one with more", 1, x.best(3, false));
-        x.mark(1, 0, 0, 12, 8, 2);
-        x.mark(2, 0, 0, 12, 8, 2);
-        x.mark(2, 4, 4, 1, 1, 1);
-        Check.same("best: one alone gives one", 2, x.best(3, false));
-        // 3 high and 12 wide: turned tranks do not fit, upright ones do
-        GloveCutters y = new GloveCutters();
-        y.lay(0);
-        y.lay(0);
-        y.mark(0, 0, 3, 12, 5, 2);
-        y.mark(1, 0, 4, 12, 4, 2);
-        y.mark(1, 8, 0, 4, 8, 2);
-        Check.same("best upright", 0, y.best(0, false));
-        Check.same("best turned", 1, y.best(0, true));
-    }
-
-    private static void promise14BestRefuses() {
-        GloveCutters x = new GloveCutters();
-        for (int far : FAR) {
-            Check.refusedUnchanged(x, "best: kind " + far, ARGUMENT, () -> x.best(far, false));
+    static void promise13EachMayHaveItsOwnThinCell() {
+        GloveCutters x = Workshop.laid(1, 0);
+        for (int at = 0; at < 24; at++) {
+            x.mark(0, 2 * (at % 6), 2 * (at / 6), 1, 1, 1);
         }
-        Check.refusedUnchanged(x, "best: kind 4", ARGUMENT, () -> x.best(4, true));
+        Check.same("24 thumbs with a thin cell each", 24, x.gives(0, 1, false));
     }
+
+    static void promise13EachAtTheFirstPlace() {
+        GloveCutters x = Workshop.laid(1, 0);
+        x.mark(0, 0, 0, 12, 8, 2);
+        x.mark(0, 1, 0, 4, 1, 0);
+        x.mark(0, 0, 1, 8, 3, 0);
+        // two tranks could lie side by side in rows 1 to 3, but the first place is above them
+        Check.same("the first place", 1, x.place(0, 0, false));
+        Check.same("it leaves no other", 1, x.gives(0, 0, false));
+        x.mark(0, 1, 0, 4, 1, 2);
+        Check.same("side by side", 2, x.gives(0, 0, false));
+    }
+
+    static void promise13HoweverManyWereCut() {
+        GloveCutters x = Workshop.with150Pieces();
+        Check.same("of a skin of which 54 cells are cut", 42, x.gives(1, 3, false));
+        x.lay(0);
+        Check.same("of a whole skin", 96, x.gives(2, 3, false));
+    }
+
+    static void promise13NothingIsChanged() {
+        GloveCutters x = Workshop.laid(2, 0);
+        x.mark(1, 3, 3, 2, 2, 1);
+        x.cut(1, 0, true, 0, 0);
+        long before = x.digest();
+        for (int kind = 0; kind <= 3; kind++) {
+            for (boolean turned : Workshop.BOTH_WAYS) {
+                int given = x.gives(1, kind, turned);
+                Check.same("digest after gives", before, x.digest());
+                Check.same("gives the same again", given, x.gives(1, kind, turned));
+            }
+        }
+        Check.same("the next piece's number", 1, x.cut(1, 3, false, 11, 7));
+    }
+
+    // ---- promise 14: best
+
+    static void promise14KindNot0To3() {
+        GloveCutters x = Workshop.laid(1, 0);
+        GloveCutters none = new GloveCutters();
+        for (boolean turned : Workshop.BOTH_WAYS) {
+            Check.refusedOutside(x, "best: kind", 0, 3, Check.ARGUMENT, kind -> x.best(kind, turned));
+            Check.refusedOutside(none, "without skins, best: kind", 0, 3, Check.ARGUMENT, kind -> none.best(kind, turned));
+            for (int kind = 0; kind <= 3; kind++) {
+                Check.same("best of " + Workshop.named(kind, turned), 0, x.best(kind, turned));
+            }
+        }
+    }
+
+    static void promise14NoneGivesAny() {
+        GloveCutters none = new GloveCutters();
+        GloveCutters holes = Workshop.laid(2, 0);
+        holes.mark(0, 0, 0, 12, 8, 2);
+        holes.mark(1, 0, 0, 12, 8, 2);
+        for (int kind = 0; kind <= 3; kind++) {
+            Check.same("best without skins", -1, none.best(kind, false));
+            Check.same("best of holes", -1, holes.best(kind, true));
+        }
+        holes.mark(1, 11, 7, 1, 1, 1);
+        Check.same("a quirk of one thin cell", 1, holes.best(3, false));
+        Check.same("no thumb of it", -1, holes.best(1, false));
+    }
+
+    static void promise14OfSeveralTheSmallestNumber() {
+        GloveCutters x = Workshop.laid(10, 0);
+        for (int skin = 0; skin < 9; skin++) {
+            Check.same("the first of those alike", skin, x.best(0, false));
+            x.mark(skin, 5, 4, 1, 1, 2);
+        }
+        Check.same("the last alone", 9, x.best(0, false));
+        x.mark(9, 5, 4, 1, 1, 2);
+        Check.same("all alike again", 0, x.best(0, false));
+    }
+
+    static void promise14TheMostWhereverItIs() {
+        for (int most = 0; most < 10; most++) {
+            GloveCutters x = Workshop.laid(10, 0);
+            for (int skin = 0; skin < 10; skin++) {
+                x.mark(skin, 0, 0, 12, 1, skin == most ? 0 : 2);
+                x.mark(skin, 0, 1, 1, 1, 2);
+            }
+            Check.same("the one with a row more", most, x.best(3, false));
+        }
+    }
+
+    static void promise14TurnedOrNot() {
+        GloveCutters x = Workshop.laid(2, 0);
+        // skin 0 is 12 wide and 3 high, skin 1 is 8 wide and 4 high
+        Workshop.holesBut(x, 0, 0, 0, 12, 3);
+        Workshop.holesBut(x, 1, 0, 0, 8, 4);
+        Check.same("best upright", 0, x.best(0, false));
+        Check.same("best turned", 1, x.best(0, true));
+    }
+
+    static void promise14HoweverManyWereCut() {
+        GloveCutters x = Workshop.with150Pieces();
+        Check.same("best at 150 pieces", 1, x.best(3, false));
+    }
+
+    // ---- promise 15: lacks
 
     private static void lacks(GloveCutters x, String when, int colour, int... due) {
         for (int kind = 0; kind <= 3; kind++) {
@@ -107,147 +182,331 @@ public final class WouldBeTest {
         }
     }
 
-    private static void promise15Lacks() {
-        GloveCutters x = new GloveCutters();
-        lacks(x, "no skins", 0, 2, 2, 6, 4);
-        GloveCutters y = new GloveCutters();
-        y.lay(0);
-        Workshop.cutMany(y, 0, 1, 1);
-        lacks(y, "the first piece a thumb", 0, 2, 1, 6, 4);
-        x.lay(0);
-        x.lay(0);
-        x.lay(1);
-        Workshop.cutMany(x, 0, 0, 1);
-        Workshop.cutMany(x, 1, 0, 1);
-        Workshop.cutMany(x, 0, 1, 1);
-        Workshop.cutMany(x, 1, 1, 1);
-        Workshop.cutMany(x, 0, 2, 2);
-        Workshop.cutMany(x, 1, 2, 3);
-        Workshop.cutMany(x, 1, 3, 5);
-        lacks(x, "tranks of two skins", 0, 1, 0, 1, 0);
-        lacks(x, "the other colour", 1, 2, 2, 6, 4);
-        Workshop.cutMany(x, 1, 0, 2);
-        Workshop.cutMany(x, 0, 2, 1);
-        lacks(x, "nothing, and tranks more than needed", 0, 0, 0, 0, 0);
-        x.sew(0);
-        lacks(x, "after sew", 0, 1, 2, 6, 3);
-        x.rip(0);
-        lacks(x, "after rip, fourchettes lost", 0, 0, 0, 6, 0);
-        GloveCutters full = new GloveCutters();
+    static void promise15ColourNot0To5() {
+        GloveCutters x = Workshop.laid(1, 0);
+        for (int kind = -1; kind <= 4; kind++) {
+            int one = kind;
+            Check.refusedOutside(x, "lacks: kind " + kind + ", colour", 0, 5, Check.ARGUMENT, colour -> x.lacks(colour, one));
+        }
+        for (int colour = 0; colour <= 5; colour++) {
+            Check.same("lacks(" + colour + ", 0)", 2, x.lacks(colour, 0));
+        }
+    }
+
+    static void promise15KindNot0To3() {
+        GloveCutters x = Workshop.laid(1, 0);
+        for (int colour = 0; colour <= 5; colour++) {
+            int one = colour;
+            Check.refusedOutside(x, "lacks: colour " + colour + ", kind", 0, 3, Check.ARGUMENT, kind -> x.lacks(one, kind));
+        }
+        lacks(x, "no pieces", 5, 2, 2, 6, 4);
+    }
+
+    static void promise15AllWhereNoneIsFree() {
+        for (int colour = 0; colour <= 5; colour++) {
+            lacks(new GloveCutters(), "no skins", colour, 2, 2, 6, 4);
+            lacks(Workshop.laid(10, colour), "no pieces", colour, 2, 2, 6, 4);
+        }
+    }
+
+    static void promise15OneLessForEachFreePieceAndAtLeast0() {
+        for (int kind = 0; kind <= 3; kind++) {
+            GloveCutters x = Workshop.laid(1, 0);
+            for (int free = 1; free <= 6; free++) {
+                Workshop.cutMany(x, 0, kind, 1);
+                int[] due = Workshop.NEEDED.clone();
+                due[kind] = Math.max(0, due[kind] - free);
+                lacks(x, free + " of kind " + kind, 0, due);
+            }
+            Workshop.cutMany(x, 0, kind, kind == 0 ? 0 : 2);
+            Check.same("more than needed of kind " + kind, 0, x.lacks(0, kind));
+        }
+    }
+
+    static void promise15TranksOfOneSkinAlone() {
+        GloveCutters x = Workshop.laid(10, 0);
         for (int skin = 0; skin < 10; skin++) {
-            full.lay(skin == 9 ? 4 : 5);
+            Workshop.cutMany(x, skin, 0, 1);
+            Check.same("a trank of each skin to " + skin, 1, x.lacks(0, 0));
         }
-        Workshop.cutMany(full, 0, 3, 96);
-        Workshop.cutMany(full, 1, 3, 40);
-        Workshop.cutPair(full, 9);
-        lacks(full, "at 10 skins and 150 pieces", 4, 0, 0, 0, 0);
-        Check.same("pairs at 10 skins and 150 pieces", 1, full.pairs(4));
-        Check.same("count of free ones at 150 pieces", 150, full.count(2));
-        Check.same("best at 10 skins", 2, full.best(0, false));
-        Check.same("sew at 10 skins and 150 pieces", 0, full.sew(4));
-        Check.refusedUnchanged(full, "sew again there", IllegalStateException.class, () -> full.sew(4));
-        Check.same("rip at 150 pieces", 8, full.rip(0));
+        Workshop.cutMany(x, 9, 0, 1);
+        Check.same("a second one of the last skin", 0, x.lacks(0, 0));
     }
 
-    private static void promise15LacksRefuses() {
-        GloveCutters x = new GloveCutters();
-        for (int far : FAR) {
-            Check.refusedUnchanged(x, "lacks: colour " + far, ARGUMENT, () -> x.lacks(far, 0));
-            Check.refusedUnchanged(x, "lacks: kind " + far, ARGUMENT, () -> x.lacks(0, far));
+    static void promise15OtherKindsOfAllSkins() {
+        GloveCutters x = Workshop.laid(10, 0);
+        for (int kind = 1; kind <= 3; kind++) {
+            for (int skin = 10 - Workshop.NEEDED[kind]; skin < 10; skin++) {
+                Workshop.cutMany(x, skin, kind, 1);
+                Check.same("one of each skin to " + skin, 9 - skin, x.lacks(0, kind));
+            }
         }
-        Check.refusedUnchanged(x, "lacks: colour 6", ARGUMENT, () -> x.lacks(6, 0));
-        Check.refusedUnchanged(x, "lacks: kind 4", ARGUMENT, () -> x.lacks(0, 4));
     }
 
-    private static void promise16Pairs() {
+    static void promise15OfThisColourAlone() {
         GloveCutters x = new GloveCutters();
-        Check.same("pairs without skins", 0, x.pairs(0));
-        for (int skin = 0; skin < 4; skin++) {
+        x.lay(1);
+        x.lay(2);
+        Workshop.cutPair(x, 1);
+        lacks(x, "its own", 2, 0, 0, 0, 0);
+        lacks(x, "of another colour", 1, 2, 2, 6, 4);
+        lacks(x, "of a colour without a skin", 0, 2, 2, 6, 4);
+    }
+
+    static void promise15SewnAndLostOnesAreNotFree() {
+        GloveCutters x = Workshop.laid(1, 0);
+        Workshop.cutPair(x, 0);
+        lacks(x, "all free", 0, 0, 0, 0, 0);
+        x.sew(0);
+        lacks(x, "all sewn", 0, 2, 2, 6, 4);
+        x.rip(0);
+        lacks(x, "fourchettes lost", 0, 0, 0, 6, 0);
+    }
+
+    // ---- promise 16: pairs
+
+    static void promise16ColourNot0To5() {
+        GloveCutters x = new GloveCutters();
+        Check.refusedOutside(x, "pairs without skins", 0, 5, Check.ARGUMENT, x::pairs);
+        for (int colour = 0; colour <= 5; colour++) {
+            Check.same("pairs(" + colour + ") without skins", 0, x.pairs(colour));
+            x.lay(colour);
+        }
+        Check.refusedOutside(x, "pairs", 0, 5, Check.ARGUMENT, x::pairs);
+        Workshop.cutPair(x, 5);
+        for (int colour = 0; colour <= 5; colour++) {
+            Check.same("pairs(" + colour + ")", colour == 5 ? 1 : 0, x.pairs(colour));
+        }
+    }
+
+    static void promise16OneTooFewOfEachKind() {
+        for (int kind = 0; kind <= 3; kind++) {
+            GloveCutters x = Workshop.laid(2, 5);
+            for (int other = 0; other <= 3; other++) {
+                Workshop.cutMany(x, 0, other, Workshop.NEEDED[other] - (other == kind ? 1 : 0));
+            }
+            Check.same("one of kind " + kind + " too few for one", 0, x.pairs(5));
+            Workshop.cutMany(x, 0, kind, 1);
+            Check.same("one", 1, x.pairs(5));
+            for (int other = 0; other <= 3; other++) {
+                Workshop.cutMany(x, 1, other, Workshop.NEEDED[other] - (other == kind ? 1 : 0));
+            }
+            Check.same("one of kind " + kind + " too few for two", 1, x.pairs(5));
+            Workshop.cutMany(x, 1, kind, 1);
+            Check.same("two", 2, x.pairs(5));
+        }
+    }
+
+    static void promise16TranksThatAreSingleOnTheirSkins() {
+        GloveCutters x = Workshop.laid(5, 0);
+        for (int kind = 1; kind <= 3; kind++) {
+            Workshop.cutMany(x, 4, kind, 3 * Workshop.NEEDED[kind]);
+        }
+        for (int skin = 0; skin <= 2; skin++) {
+            Workshop.cutMany(x, skin, 0, 1);
+        }
+        Check.same("three single ones", 0, x.pairs(0));
+        Workshop.cutMany(x, 0, 0, 2);
+        Workshop.cutMany(x, 1, 0, 2);
+        Check.same("three, three and one", 2, x.pairs(0));
+        Workshop.cutMany(x, 2, 0, 1);
+        Check.same("three, three and two", 3, x.pairs(0));
+    }
+
+    static void promise16PiecesOfOtherColoursDoNotCount() {
+        for (int kind = 0; kind <= 3; kind++) {
+            GloveCutters x = Workshop.ofAnotherColour(kind);
+            Check.same("kind " + kind + " of colour 3: pairs(4)", 0, x.pairs(4));
+            Check.same("kind " + kind + " of colour 3: pairs(3)", 0, x.pairs(3));
+            Workshop.cutMany(x, 0, kind, Workshop.NEEDED[kind]);
+            Check.same("all of colour 4: pairs(4)", 1, x.pairs(4));
+        }
+    }
+
+    static void promise16OneAfterTheOther() {
+        GloveCutters x = Workshop.laid(3, 0);
+        for (int skin = 0; skin < 3; skin++) {
+            Workshop.cutPair(x, skin);
+        }
+        for (int left = 3; left > 0; left--) {
+            Check.same("pairs", left, x.pairs(0));
+            Check.same("sew", 3 - left, x.sew(0));
+        }
+        Check.same("pairs when all are sewn", 0, x.pairs(0));
+        Check.refused(x, "sew when pairs() is 0", Check.STATE, () -> x.sew(0));
+        x.rip(1);
+        Check.same("pairs without fourchettes", 0, x.pairs(0));
+        Workshop.cutMany(x, 0, 2, 6);
+        Check.same("pairs with new ones", 1, x.pairs(0));
+    }
+
+    static void promise16HoweverManyWereSewn() {
+        GloveCutters x = Workshop.with20Pairs();
+        Check.same("nothing is free", 0, x.pairs(0));
+        for (int skin = 6; skin <= 7; skin++) {
             x.lay(0);
         }
-        // five tranks on two skins are two pairs, not three with the single one of a third skin
-        Workshop.cutMany(x, 0, 0, 3);
-        Workshop.cutMany(x, 1, 0, 2);
-        Workshop.cutMany(x, 2, 0, 1);
-        Workshop.cutMany(x, 3, 1, 6);
-        Workshop.cutMany(x, 3, 2, 17);
-        Check.same("without quirks", 0, x.pairs(0));
-        Workshop.cutMany(x, 3, 3, 12);
-        Check.same("as many as tranks and fourchettes allow", 2, x.pairs(0));
-        Workshop.cutMany(x, 2, 2, 1);
-        Check.same("as many as tranks allow", 2, x.pairs(0));
-        Workshop.cutMany(x, 2, 0, 1);
-        Check.same("three", 3, x.pairs(0));
-        Check.same("the other colour", 0, x.pairs(1));
-        Check.same("pairs changes nothing", 0, x.count(5));
-        for (int left = 2; left >= 0; left--) {
-            x.sew(0);
-            Check.same("pairs after sew", left, x.pairs(0));
-        }
-        x.rip(1);
-        Check.same("pairs after rip", 0, x.pairs(0));
-        for (int kind = 0; kind <= 3; kind++) {
-            GloveCutters y = new GloveCutters();
-            y.lay(5);
-            y.lay(5);
-            Workshop.cutPair(y, 0);
-            Workshop.cutMany(y, 1, 0, kind == 0 ? 1 : 2);
-            Workshop.cutMany(y, 1, 1, kind == 1 ? 1 : 2);
-            Workshop.cutMany(y, 1, 2, kind == 2 ? 5 : 6);
-            Workshop.cutMany(y, 1, 3, kind == 3 ? 3 : 4);
-            Check.same("one of kind " + kind + " too few for two", 1, y.pairs(5));
-            Workshop.cutMany(y, 1, kind, 1);
-            Check.same("two pairs", 2, y.pairs(5));
-        }
+        Workshop.cutPair(x, 6);
+        Check.same("one at 20", 1, x.pairs(0));
+        Workshop.cutMany(x, 7, 2, 6);
+        x.rip(19);
+        Check.same("two at 20", 2, x.pairs(0));
     }
 
-    private static void promise16PairsRefuses() {
-        GloveCutters x = new GloveCutters();
-        for (int far : FAR) {
-            Check.refusedUnchanged(x, "pairs(" + far + ")", ARGUMENT, () -> x.pairs(far));
+    static void promise16AsManyAs150PiecesMake() {
+        GloveCutters x = Workshop.laid(10, 0);
+        for (int skin = 0; skin < 10; skin++) {
+            Workshop.cutPair(x, skin);
         }
-        Check.refusedUnchanged(x, "pairs(6)", ARGUMENT, () -> x.pairs(6));
+        Workshop.cutMany(x, 9, 3, 10);
+        Check.same("pieces", 150, x.count(1));
+        Check.same("ten", 10, x.pairs(0));
     }
 
-    private static void promise17Share() {
+    static void promise16NothingIsChanged() {
+        GloveCutters x = Workshop.laid(1, 0);
+        Workshop.cutPair(x, 0);
+        long before = x.digest();
+        Check.same("pairs", 1, x.pairs(0));
+        Check.same("digest after pairs", before, x.digest());
+        Check.same("pairs again", 1, x.pairs(0));
+        Check.same("sew after pairs", 0, x.sew(0));
+    }
+
+    // ---- promise 17: share
+
+    static void promise17ThereAreNoCells() {
         GloveCutters x = new GloveCutters();
         Check.sameDouble("without skins", 0.0, x.share());
         x.lay(0);
-        Check.sameDouble("nothing cut", 0.0, x.share());
         x.mark(0, 0, 0, 12, 8, 2);
         Check.sameDouble("holes alone", 0.0, x.share());
-        x.mark(0, 0, 0, 4, 3, 0);
+        x.lay(0);
+        x.mark(1, 0, 0, 12, 8, 2);
+        Check.sameDouble("holes alone on two skins", 0.0, x.share());
+    }
+
+    static void promise17NothingIsCut() {
+        Check.sameDouble("nothing cut", 0.0, Workshop.laid(10, 0).share());
+    }
+
+    static void promise17AllIsCut() {
+        GloveCutters x = Workshop.laid(2, 0);
+        Workshop.cutQuirks(x, 0, 96);
+        x.mark(1, 0, 0, 12, 8, 2);
+        Check.sameDouble("all but holes is cut", 1.0, x.share());
+        x.mark(1, 4, 4, 1, 1, 1);
+        Check.sameDouble("all but a thin cell", 96.0 / 97.0, x.share());
+        x.cut(1, 3, false, 4, 4);
+        Check.sameDouble("the thin cell too", 1.0, x.share());
+    }
+
+    static void promise17ThinCellsCountAndHolesDoNot() {
+        GloveCutters x = Workshop.laid(1, 0);
+        x.mark(0, 0, 0, 12, 1, 1);
+        x.mark(0, 0, 7, 5, 1, 2);
+        x.cut(0, 3, false, 0, 0);
+        Check.sameDouble("one cut, five holes", 1.0 / 91.0, x.share());
+    }
+
+    static void promise17OfAllSkinsTogether() {
+        GloveCutters x = Workshop.laid(10, 0);
         x.cut(0, 0, false, 0, 0);
-        Check.sameDouble("all is cut", 1.0, x.share());
-        x.lay(1);
-        Check.sameDouble("of two skins", 12.0 / 108.0, x.share());
-        x.mark(1, 0, 0, 12, 1, 1);
-        x.mark(1, 0, 7, 5, 1, 2);
-        x.cut(1, 3, false, 0, 0);
-        Check.sameDouble("thin ones count, holes do not", 13.0 / 103.0, x.share());
+        x.cut(9, 1, false, 0, 0);
+        x.mark(5, 0, 0, 12, 8, 2);
+        Check.sameDouble("16 of 9 skins", 16.0 / 864.0, x.share());
     }
 
-    private static void promise18Digest() {
-        long d = 1087;
-        for (int i = 0; i < 7; i++) {
-            d = d * 31;
+    static void promise17SewnAndLostPiecesAreCutStill() {
+        GloveCutters x = Workshop.laid(1, 0);
+        Workshop.cutPair(x, 0);
+        x.sew(0);
+        Check.sameDouble("sewn", 54.0 / 96.0, x.share());
+        x.rip(0);
+        Check.sameDouble("ripped up", 54.0 / 96.0, x.share());
+    }
+
+    // ---- promise 18: digest
+
+    private static long folded(List<Integer> told) {
+        return unwrapped(told).longValue();
+    }
+
+    /** The checksum as it would be without an end to its digits. */
+    private static BigInteger unwrapped(List<Integer> told) {
+        BigInteger d = BigInteger.valueOf(1087);
+        for (int x : told) {
+            d = d.multiply(BigInteger.valueOf(31)).add(BigInteger.valueOf(x));
         }
-        Check.same("digest of a new object", d, new GloveCutters().digest());
-        GloveCutters x = twoSkins();
-        Check.same("digest of pieces", told(x), x.digest());
-        GloveCutters y = twoSkins();
-        y.sew(2);
-        y.rip(0);
-        Workshop.cutMany(y, 0, 2, 6);
-        y.sew(2);
-        Check.same("digest of pairs", told(y), y.digest());
-        Check.same("digest again", y.digest(), y.digest());
+        return d;
     }
 
+    /** What the other calls tell; each part is asked of an object made anew, so that none is asked too often. */
+    private static List<Integer> told(Made made) {
+        List<Integer> told = new ArrayList<>();
+        GloveCutters first = made.anew();
+        for (int what = 0; what <= 6; what++) {
+            told.add(first.count(what));
+        }
+        for (int skin = 0; skin < first.count(0); skin++) {
+            GloveCutters x = made.anew();
+            for (int what = 0; what <= 5; what++) {
+                told.add(x.skin(skin, what));
+            }
+            for (int at = 0; at < 96; at++) {
+                told.add(x.cell(skin, at % 12, at / 12));
+            }
+        }
+        for (int piece = 0; piece < first.count(1); piece++) {
+            GloveCutters x = made.anew();
+            for (int what = 0; what <= 3; what++) {
+                told.add(x.piece(piece, what));
+            }
+        }
+        for (int pair = 0; pair < first.count(5); pair++) {
+            GloveCutters x = made.anew();
+            for (int what = 0; what <= 4; what++) {
+                told.add(x.pair(pair, what));
+            }
+        }
+        return told;
+    }
+
+    private static void digests(String of, Made made) {
+        GloveCutters x = made.anew();
+        long due = folded(told(made));
+        Check.same("digest of " + of, due, x.digest());
+        Check.same("digest of " + of + ", again", due, x.digest());
+    }
+
+    static void promise18OfANewObject() {
+        // 1087 * 31 to the seventh, since seven counts are 0
+        Check.same("digest of a new object", 1087L * 27512614111L, new GloveCutters().digest());
+    }
+
+    static void promise18WrapsAround() {
+        GloveCutters x = Workshop.laid(1, 0);
+        List<Integer> told = told(() -> Workshop.laid(1, 0));
+        Check.same("it goes beyond 64 bits", 1, unwrapped(told).bitLength() > 64 ? 1 : 0);
+        Check.same("digest of one skin", folded(told), x.digest());
+    }
+
+    static void promise18OfSkins() {
+        digests("ten skins", () -> {
+            GloveCutters x = new GloveCutters();
+            for (int skin = 0; skin < 10; skin++) {
+                x.lay(skin * 7 % 6);
+                x.mark(skin, skin, skin % 7, 2, 2, 1);
+                x.mark(skin, 11 - skin, 7 - skin % 7, 1, 1, 2);
+                x.cut(skin, 3, false, skin, 7 * (skin % 2));
+            }
+            return x;
+        });
+    }
+
+    /** A workshop of two skins with pieces of each kind, some with thin cells, enough for a pair. */
     private static GloveCutters twoSkins() {
-        GloveCutters x = new GloveCutters();
-        x.lay(2);
-        x.lay(2);
+        GloveCutters x = Workshop.laid(2, 2);
         x.mark(1, 0, 0, 3, 1, 1);
         x.mark(0, 11, 0, 1, 8, 2);
         Workshop.cutMany(x, 0, 0, 2);
@@ -257,30 +516,51 @@ public final class WouldBeTest {
         return x;
     }
 
-    /** The digest by what the other calls tell; for few calls, since every cell is one. */
-    private static long told(GloveCutters x) {
-        long d = 1087;
-        for (int what = 0; what <= 6; what++) {
-            d = d * 31 + x.count(what);
-        }
-        for (int skin = 0; skin < x.count(0); skin++) {
-            for (int what = 0; what <= 5; what++) {
-                d = d * 31 + x.skin(skin, what);
+    static void promise18OfFreePieces() {
+        digests("free pieces", WouldBeTest::twoSkins);
+        digests("150 pieces", Workshop::with150Pieces);
+    }
+
+    static void promise18OfSewnAndLostPiecesAndPairs() {
+        digests("a pair", () -> {
+            GloveCutters x = twoSkins();
+            x.sew(2);
+            return x;
+        });
+        digests("a pair, and one that is ripped up", () -> {
+            GloveCutters x = twoSkins();
+            x.sew(2);
+            x.rip(0);
+            Workshop.cutMany(x, 0, 2, 6);
+            x.sew(2);
+            return x;
+        });
+    }
+
+    static void promise18AtTheLimits() {
+        digests("10 skins, 150 pieces, 20 pairs", () -> {
+            GloveCutters x = Workshop.with20Pairs();
+            for (int skin = 6; skin < 10; skin++) {
+                x.lay(skin - 5);
             }
-            for (int at = 0; at < 96; at++) {
-                d = d * 31 + x.cell(skin, at % 12, at / 12);
-            }
-        }
-        for (int piece = 0; piece < x.count(1); piece++) {
-            for (int what = 0; what <= 3; what++) {
-                d = d * 31 + x.piece(piece, what);
-            }
-        }
-        for (int pair = 0; pair < x.count(5); pair++) {
-            for (int what = 0; what <= 4; what++) {
-                d = d * 31 + x.pair(pair, what);
-            }
-        }
-        return d;
+            Workshop.cutQuirks(x, 9, 22);
+            return x;
+        });
+    }
+
+    static void promise18NothingIsChanged() {
+        GloveCutters x = twoSkins();
+        long before = x.digest();
+        x.place(1, 0, true);
+        x.best(1, true);
+        x.lacks(2, 0);
+        x.pairs(2);
+        x.share();
+        x.cell(0, 0, 0);
+        x.skin(0, 0);
+        x.piece(0, 0);
+        x.count(0);
+        Check.same("digest after calls that only tell", before, x.digest());
+        Check.same("sew after digest", 0, x.sew(2));
     }
 }
